@@ -39,6 +39,8 @@ public final class GlidingContest {
     private static final int EAST = 1;
     private static final int SOUTH = 2;
     private static final int WEST = 3;
+    /** The ways of a program, in the order of the directions. */
+    private static final String WAYS = "nesw";
 
     private static final int NOTHING = -1;
 
@@ -596,7 +598,7 @@ public final class GlidingContest {
         }
 
         int spanTo(int point, int x, int y) {
-            if (!hasPoint(point)) {
+            if (point < 0 || point >= points) {
                 return 0;
             }
             return Math.abs(pointX[point] - x) + Math.abs(pointY[point] - y);
@@ -1372,12 +1374,16 @@ public final class GlidingContest {
             return character >= '0' && character <= '9' ? character - '0' : NOTHING;
         }
 
-        /** The ways stand in the order of the directions. */
         private int wayAt(int position) {
             if (position < 0 || position >= length) {
                 return NOTHING;
             }
-            return "nesw".indexOf(text[position]);
+            for (int direction = 0; direction < WAYS.length(); direction++) {
+                if (WAYS.charAt(direction) == text[position]) {
+                    return direction;
+                }
+            }
+            return NOTHING;
         }
 
         private void putNumber(int slot, int value) {
