@@ -12,6 +12,7 @@ public final class ScoreTest {
         ranksByScore();
         ranksByPenaltyAndIndex();
         ranksOfTotals();
+        ranksForgetPenalties();
         days();
         speed();
         meanScore();
@@ -184,6 +185,18 @@ public final class ScoreTest {
         c.launch(0);
         c.fly(0, Fixture.WEST, 1);
         due.answer("equal sums, a penalty today", ranking(c), "10");
+    }
+
+    private static void ranksForgetPenalties() {
+        GlidingContest c = Fixture.withTask(20, 20);
+        c.addArea(9, 10, 9, 10);
+        c.launch(0);
+        c.fly(0, Fixture.WEST, 1);
+        due.answer("a penalty today", ranking(c), "10");
+        Fixture.land(c, 0);
+        c.endDay();
+        due.answer("no total", c.total(0), 0L);
+        due.answer("the penalty of a past day", ranking(c), "01");
     }
 
     private static void days() {

@@ -13,6 +13,8 @@ public final class UndoTest {
         save();
         restore();
         saveAndUndo();
+        restoreOverOtherMap();
+        undoOverOtherTask();
         due.finish();
     }
 
@@ -232,5 +234,49 @@ public final class UndoTest {
         c.restore();
         due.answer("undo leaves what is saved", c.pilotCount(), 1);
         due.answer("its sink", c.sink(0), 25);
+    }
+
+    private static void undoTimes(GlidingContest c, int times) {
+        for (int i = 0; i < times; i++) {
+            c.undo();
+        }
+    }
+
+    /** As many turn points, thermals and areas as were saved, but others. */
+    private static void restoreOverOtherMap() {
+        GlidingContest c = new GlidingContest();
+        Fixture.runText(c, "point 3 40;point 10 4;task 0;task 1;task 0;pilot 20");
+        c.addThermal(20, 30, 4);
+        c.addArea(5, 6, 7, 8);
+        c.save();
+        undoTimes(c, 3);
+        Fixture.runText(c, "point 50 50;point 51 50;task 1;task 0;task 1;pilot 60");
+        c.addThermal(44, 45, 2);
+        c.addArea(15, 16, 17, 18);
+        due.answer("the other task", Fixture.taskLine(c), "1-1>0-1>1");
+        c.restore();
+        due.answer("the saved task", Fixture.taskLine(c), "0-43>1-43>0");
+        due.answer("the distance", c.distance(0, 1), 43);
+        due.answer("the sink", c.sink(0), 50);
+        due.answer("the thermal", c.strongestThermal(20, 30), 4);
+        due.thrown("the other thermal", Fixture.NO_ELEMENT, () -> c.strongestThermal(44, 45));
+        due.answer("the area", c.isRestricted(5, 6) && c.isRestricted(7, 8), true);
+        due.answer("its row", c.restrictedInRow(7), 3);
+        due.answer("above it", c.restrictedInRow(9), 0);
+        due.answer("the other area", c.isRestricted(16, 17), false);
+        c.launch(0);
+        due.answer("the start", Fixture.pilotLine(c, 0), "0f3,40 1000m 1/3");
+    }
+
+    private static void undoOverOtherTask() {
+        GlidingContest c = Fixture.withTask(20);
+        c.clearTask();
+        c.addTaskPoint(2);
+        c.addTaskPoint(0);
+        c.addTaskPoint(2);
+        due.answer("the new task", Fixture.taskLine(c), "2-18>0-18>2");
+        undoTimes(c, 4);
+        due.answer("the old task", Fixture.taskLine(c), "0-10>1-8>2");
+        due.answer("its distance", c.taskDistance(), 18);
     }
 }
