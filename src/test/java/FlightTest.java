@@ -16,6 +16,7 @@ public final class FlightTest {
         climbAboveBase();
         climbRefused();
         endDay();
+        endDayOfSix();
         endDayRefused();
         due.finish();
     }
@@ -288,6 +289,22 @@ public final class FlightTest {
         due.answer("the second day", c.endDay(), 1);
         due.answer("totals add up", c.total(1), 3000L);
         due.answer("two days", c.days(), 2);
+    }
+
+    private static void endDayOfSix() {
+        GlidingContest c = Fixture.withTask(60, 60, 60, 60, 60, 60);
+        for (int pilot = 0; pilot < 6; pilot++) {
+            due.answer("launch", c.launch(pilot), pilot + 1);
+        }
+        due.answer("all six agree", c.isConsistent(), true);
+        for (int pilot = 0; pilot < 6; pilot++) {
+            Fixture.finish(c, pilot);
+        }
+        due.answer("six finish", c.endDay(), 6);
+        for (int pilot = 0; pilot < 6; pilot++) {
+            due.answer("total of " + pilot, c.total(pilot), 1500L);
+            due.answer("it waits", Fixture.pilotLine(c, pilot), pilot + "-");
+        }
     }
 
     private static void endDayRefused() {
