@@ -1,3 +1,5 @@
+import java.util.NoSuchElementException;
+
 /** Compares answers with those that are due, prints each wrong one, and counts both kinds. */
 final class Due {
     private final String suite;
@@ -28,9 +30,61 @@ final class Due {
         answer("the exception of " + call, got, want.getName());
     }
 
+    // ---- short forms for tests of one sentence, whose name tells what they ask
+
+    void is(Object got, Object want) {
+        answer(next(), got, want);
+    }
+
+    void argument(Runnable action) {
+        thrown(next(), IllegalArgumentException.class, action);
+    }
+
+    void state(Runnable action) {
+        thrown(next(), IllegalStateException.class, action);
+    }
+
+    void index(Runnable action) {
+        thrown(next(), IndexOutOfBoundsException.class, action);
+    }
+
+    void unsupported(Runnable action) {
+        thrown(next(), UnsupportedOperationException.class, action);
+    }
+
+    void noElement(Runnable action) {
+        thrown(next(), NoSuchElementException.class, action);
+    }
+
+    void arithmetic(Runnable action) {
+        thrown(next(), ArithmeticException.class, action);
+    }
+
+    /** The call throws, and whatever can be asked afterwards is as before. */
+    void kept(GlidingContest contest, Runnable action) {
+        String before = View.of(contest);
+        String got = "an answer";
+        try {
+            action.run();
+        } catch (RuntimeException e) {
+            got = "an exception";
+        }
+        answer(next() + " (the call)", got, "an exception");
+        answer(next() + " (the state)", View.of(contest), before);
+    }
+
+    private String next() {
+        return "check " + (passed + failed + 1);
+    }
+
+    /** A test that compares nothing does not hold. */
+    boolean holds() {
+        return failed == 0 && passed > 0;
+    }
+
     void finish() {
         System.out.println(suite + ": " + passed + " passed, " + failed + " failed");
-        if (failed > 0 || passed == 0) {
+        if (!holds()) {
             System.exit(1);
         }
     }

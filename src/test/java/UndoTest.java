@@ -134,7 +134,7 @@ public final class UndoTest {
         due.answer("pointCount", c.pointCount(), 0);
         due.answer("taskLength", c.taskLength(), 0);
         due.answer("the pilot waits", Fixture.pilotLine(c, 0), "0-");
-        for (int i = 0; i < 20; i++) {
+        for (int i = 0; i < 10; i++) {
             Fixture.runText(c, "point 1 1;point 1 1");
             due.answer("a program is one call", c.undo(), 1);
         }
