@@ -112,6 +112,19 @@ public final class PilotQueryBoundaryTest {
         due.is(c.isPlanning(), false);
     }
 
+    static void promise24_isPlanning_edge_afterEachOfManyDays(Due due) {
+        GlidingContest c = Fixture.withTask(20);
+        for (int day = 1; day <= 5; day++) {
+            c.launch(0);
+            due.is(c.isPlanning(), false);
+            Fixture.finish(c, 0);
+            due.is(c.isPlanning(), false);
+            c.endDay();
+            due.is(c.isPlanning(), true);
+            due.is(c.days(), day);
+        }
+    }
+
     static void promise24_isPlanning_edge_afterTheDay(Due due) {
         GlidingContest c = Fixture.withTask(20, 20);
         c.launch(0);
@@ -484,5 +497,108 @@ public final class PilotQueryBoundaryTest {
             due.is(c.canFinish(0), true);
             due.is(c.canFinishBySimulation(0), true);
         }
+    }
+
+    /** A pilot is launched for the task along the positions, given by x and y in turn. */
+    private static GlidingContest along(int ratio, int... positions) {
+        GlidingContest c = new GlidingContest();
+        for (int i = 0; i + 1 < positions.length; i += 2) {
+            c.addTaskPoint(c.addPoint(positions[i], positions[i + 1]));
+        }
+        c.addPilot(ratio);
+        c.launch(0);
+        return c;
+    }
+
+    /** At the middle one of three turn points, 15 kilometres before the finish. */
+    private static GlidingContest atTheMiddle(int height) {
+        GlidingContest c = along(20, 0, 0, 10, 0, 10, 15);
+        c.addThermal(10, 0, 5);
+        c.setCloudBase(height);
+        c.fly(0, Fixture.EAST, 10);
+        c.climb(0, 30);
+        return c;
+    }
+
+    private static GlidingContest astray(int kilometres) {
+        GlidingContest c = along(20, 10, 10, 20, 10, 20, 18);
+        c.fly(0, Fixture.WEST, kilometres);
+        return c;
+    }
+
+    private static GlidingContest withThermalOnTheWay() {
+        GlidingContest c = along(20, 0, 0, 21, 0);
+        c.addThermal(10, 0, 5);
+        return c;
+    }
+
+    static void promise36_canFinish_edge_onlyTheNextTurnPointInReach(Due due) {
+        due.is(along(20, 0, 0, 10, 0, 40, 0).canFinish(0), false);
+    }
+
+    static void promise36_canFinish_edge_legsBehindNoLongerCount(Due due) {
+        due.is(atTheMiddle(701).canFinish(0), true);
+        due.is(atTheMiddle(700).canFinish(0), false);
+    }
+
+    static void promise36_canFinish_edge_finishWhereTheStartIs(Due due) {
+        due.is(along(20, 0, 0, 10, 0, 0, 0).canFinish(0), true);
+        due.is(along(20, 0, 0, 11, 0, 0, 0).canFinish(0), false);
+    }
+
+    static void promise36_canFinish_edge_wayAstrayCounts(Due due) {
+        due.is(astray(1).canFinish(0), true);
+        due.is(astray(2).canFinish(0), false);
+    }
+
+    static void promise36_canFinish_edge_sinkIsRoundedDown(Due due) {
+        due.is(along(60, 0, 0, 60, 0, 60, 3).canFinish(0), true);
+        due.is(along(60, 0, 0, 60, 0, 60, 4).canFinish(0), false);
+        due.is(along(37, 0, 0, 38, 0).canFinish(0), true);
+        due.is(along(37, 0, 0, 39, 0).canFinish(0), false);
+    }
+
+    static void promise36_canFinish_edge_thermalOnTheWayDoesNotHelp(Due due) {
+        due.is(withThermalOnTheWay().canFinish(0), false);
+    }
+
+    static void promise36_canFinish_edge_sixTurnPointsInReach(Due due) {
+        due.is(along(20, 1, 1, 4, 1, 4, 4, 1, 4, 1, 1, 1, 9).canFinish(0), true);
+        due.is(along(20, 1, 1, 4, 1, 4, 4, 1, 4, 1, 1, 1, 10).canFinish(0), false);
+    }
+
+    static void promise37_canFinishBySimulation_edge_onlyTheNextTurnPointInReach(Due due) {
+        due.is(along(20, 0, 0, 10, 0, 40, 0).canFinishBySimulation(0), false);
+    }
+
+    static void promise37_canFinishBySimulation_edge_legsBehindNoLongerCount(Due due) {
+        due.is(atTheMiddle(701).canFinishBySimulation(0), true);
+        due.is(atTheMiddle(700).canFinishBySimulation(0), false);
+    }
+
+    static void promise37_canFinishBySimulation_edge_finishWhereTheStartIs(Due due) {
+        due.is(along(20, 0, 0, 10, 0, 0, 0).canFinishBySimulation(0), true);
+        due.is(along(20, 0, 0, 11, 0, 0, 0).canFinishBySimulation(0), false);
+    }
+
+    static void promise37_canFinishBySimulation_edge_wayAstrayCounts(Due due) {
+        due.is(astray(1).canFinishBySimulation(0), true);
+        due.is(astray(2).canFinishBySimulation(0), false);
+    }
+
+    static void promise37_canFinishBySimulation_edge_sinkIsRoundedDown(Due due) {
+        due.is(along(60, 0, 0, 60, 0, 60, 3).canFinishBySimulation(0), true);
+        due.is(along(60, 0, 0, 60, 0, 60, 4).canFinishBySimulation(0), false);
+        due.is(along(37, 0, 0, 38, 0).canFinishBySimulation(0), true);
+        due.is(along(37, 0, 0, 39, 0).canFinishBySimulation(0), false);
+    }
+
+    static void promise37_canFinishBySimulation_edge_thermalOnTheWayDoesNotHelp(Due due) {
+        due.is(withThermalOnTheWay().canFinishBySimulation(0), false);
+    }
+
+    static void promise37_canFinishBySimulation_edge_sixTurnPointsInReach(Due due) {
+        due.is(along(20, 1, 1, 4, 1, 4, 4, 1, 4, 1, 1, 1, 9).canFinishBySimulation(0), true);
+        due.is(along(20, 1, 1, 4, 1, 4, 4, 1, 4, 1, 1, 1, 10).canFinishBySimulation(0), false);
     }
 }
